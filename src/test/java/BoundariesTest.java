@@ -10,6 +10,10 @@ public final class BoundariesTest extends Desk {
         fresh("Promise " + number + ": '" + sentence + "'");
     }
 
+    private static void promise(int number, String sentence, String where) {
+        fresh("Promise " + number + ": '" + sentence + "', " + where);
+    }
+
     /** Each point at another place, those of the even ones below 0. */
     private static void scatter() {
         for (int k = 0; k < 8; k++) {
@@ -31,7 +35,7 @@ public final class BoundariesTest extends Desk {
     }
 
     private static void p1Tables() {
-        promise(1, "A new object: what is told to one table isn't told to another");
+        promise(1, "The table as told", "whatever was told to another");
         done("walls", t.walls(b(1), b(2)));
         done("rails", t.rails(f(1), f(2)));
         done("steps", t.steps(b(8), f(8)));
@@ -152,7 +156,7 @@ public final class BoundariesTest extends Desk {
     }
 
     private static void p4MayBeInfinite() {
-        promise(4, "LOW and HIGH likewise, with y's: they may be infinite");
+        promise(4, "LOW and HIGH likewise, with y's.", "infinite ones");
         scatter();
         done("both", t.rails(f(-INF), f(INF)));
         due("met", t.count(2), 0);
@@ -168,7 +172,7 @@ public final class BoundariesTest extends Desk {
     }
 
     private static void p4NotBelow() {
-        promise(4, "LOW and HIGH likewise, with y's: 4: the first isn't below the second");
+        promise(4, "LOW and HIGH likewise, with y's.", "4: the first isn't below the second");
         due("alike", t.rails(f(1), f(1)), 4);
         due("above by one bit", t.rails(f(1) + 1, f(1)), 4);
         due("above, both below 0", t.rails(f(-1), f(-1) + 1), 4);
@@ -184,7 +188,7 @@ public final class BoundariesTest extends Desk {
     }
 
     private static void p4ZerosAlike() {
-        promise(4, "LOW and HIGH likewise, with y's: -0 and 0 are alike here");
+        promise(4, "LOW and HIGH likewise, with y's.", "-0 and 0 are alike");
         due("-0, 0", t.rails(f(-0.0), f(0.0)), 4);
         due("0, -0", t.rails(f(0.0), f(-0.0)), 4);
         due("0, 0", t.rails(f(0.0), f(0.0)), 4);
@@ -197,7 +201,7 @@ public final class BoundariesTest extends Desk {
     }
 
     private static void p4AllWalledTrailEmpty() {
-        promise(4, "LOW and HIGH likewise, with y's: all points' y are walled, and the TRAIL is empty");
+        promise(4, "LOW and HIGH likewise, with y's.", "all points' y are walled, the TRAIL is empty");
         scatter();
         due("refused", t.rails(f(2), f(1)), 4);
         due("a refused one leaves the TRAIL", t.count(3), 8);
@@ -271,7 +275,7 @@ public final class BoundariesTest extends Desk {
     }
 
     private static void p6Zeros() {
-        promise(6, "A point's x becomes the sum of it and dx, of zeros");
+        promise(6, "A point's x becomes the sum of it and dx, its y of it and dy", "zeros");
         double[][] rows = {
             {0.0, 0.0, 0.0}, {0.0, -0.0, 0.0}, {-0.0, 0.0, 0.0}, {-0.0, -0.0, -0.0}, {1, -1, 0.0}, {-1, 1, 0.0},
         };
@@ -494,7 +498,7 @@ public final class BoundariesTest extends Desk {
     }
 
     private static void p11BehindWalls() {
-        promise(11, "A guide is at an x; walls don't move it");
+        promise(11, "A guide is at an x", "behind a wall too");
         done("walls", t.walls(b(-1), b(1)));
         done("guide", t.guide(0, b(5)));
         done("walls", t.walls(b(-INF), b(INF)));
@@ -535,7 +539,7 @@ public final class BoundariesTest extends Desk {
     }
 
     private static void p12LowestZero() {
-        promise(12, "is least (of several the lowest), of -0 and 0");
+        promise(12, "is least (of several the lowest)", "-0 and 0");
         done("guide", t.guide(1, b(-0.0)));
         done("guide", t.guide(2, b(0.0)));
         done("stick", t.stick(0, b(0.0)));
@@ -678,7 +682,7 @@ public final class BoundariesTest extends Desk {
     }
 
     private static void p14And15Bits() {
-        promise(14, "A point's x by its bits; 15: A point's y by its bits.");
+        promise(14, "A point's x by its bits", "and its y, promise 15");
         long[] xs = {0, 1, 2, 0x000fffffffffffffL, 0x0010000000000000L, 0x0010000000000001L, 0x001fffffffffffffL,
             0x3fefffffffffffffL, 0x3ff0000000000000L, 0x3ff0000000000001L, 0x7fe0000000000000L, 0x7fefffffffffffffL};
         int[] ys = {0, 1, 2, 0x007fffff, 0x00800000, 0x00800001, 0x00ffffff,
@@ -868,7 +872,7 @@ public final class BoundariesTest extends Desk {
     }
 
     private static void p23Edge() {
-        promise(23, "Of all eight points' x, way 0, the greatest, way 1, the least; 0 for another way.");
+        promise(23, "Of all eight points' x, way 0, the greatest, way 1, the least, by its bits; 0 for another way.");
         for (int k = 0; k < 8; k++) {
             put(k, -5, -5);
         }
@@ -885,7 +889,7 @@ public final class BoundariesTest extends Desk {
     }
 
     private static void p23Zeros() {
-        promise(23, "Of all eight points' x .. the greatest .. the least, of zeros");
+        promise(23, "Of all eight points' x, way 0, the greatest, way 1, the least", "zeros");
         put(7, -0.0, 3);
         due("the greatest", t.edge(0), b(0.0));
         due("the least", t.edge(1), b(-0.0));
@@ -913,7 +917,7 @@ public final class BoundariesTest extends Desk {
     }
 
     private static void p24Zeros() {
-        promise(24, "Of all eight points' y likewise, of zeros");
+        promise(24, "Of all eight points' y likewise.", "zeros");
         put(0, 3, -0.0);
         due("the greatest", t.rim(0), f(0.0));
         due("the least", t.rim(1), f(-0.0));
@@ -945,7 +949,7 @@ public final class BoundariesTest extends Desk {
     }
 
     private static void p25Infinite() {
-        promise(25, "the one that is least far (see there), when all are infinitely far");
+        promise(25, "the one that is least far (see there) from a point", "all infinitely far");
         put(3, HUGE, 0);
         for (int k = 0; k < 8; k++) {
             if (k != 3) {

@@ -8,6 +8,10 @@ public final class TermsTest extends Desk {
         fresh("Terms: '" + sentence + "'");
     }
 
+    private static void terms(String sentence, String where) {
+        fresh("Terms: '" + sentence + "', " + where);
+    }
+
     private static void moved(double x, double dx, double dueX, double y, double dy, double dueY) {
         put(0, x, y);
         done("move " + x + " by " + dx + ", " + y + " by " + dy, t.move(0, b(dx), f(dy)));
@@ -55,6 +59,21 @@ public final class TermsTest extends Desk {
         due("the 512th call", t.count(2), 16 + 2 * 509);
     }
 
+    private static void everyPower() {
+        terms("NUMBERS are those of IEEE 754: X'S of 64 bits, Y'S of 32");
+        for (int power = Double.MIN_EXPONENT - 52; power < Double.MAX_EXPONENT; power++) {
+            t = new SnapTable();
+            double x = Math.scalb(1.0, power);
+            // The y's have fewer powers, and so go through theirs again and again.
+            float y = Math.scalb(1f, Math.floorMod(power, 276) - 149);
+            moved(x, x, 2 * x, -y, -y, -2 * y);
+            done("move", t.move(0, b(-x), f(y)));
+            at(0, x, -y);
+            done("three times", t.move(0, b(2 * x), f(-2 * y)));
+            at(0, 3 * x, -3 * y);
+        }
+    }
+
     private static void sums() {
         terms("Sums .. are rounded to the nearest, of two as near to the even one");
         moved(0x1p53, 1, 0x1p53, 0x1p24, 1, 0x1p24);
@@ -68,7 +87,7 @@ public final class TermsTest extends Desk {
     }
 
     private static void sumsOfLeast() {
-        terms("Sums .. , of the least numbers");
+        terms("Sums .. are rounded to the nearest", "the least numbers");
         moved(TINY, TINY, 2 * TINY, TINYF, TINYF, 2 * TINYF);
         moved(0x1p-1022, -TINY, 0x0.fffffffffffffp-1022, 0x1p-126, -TINYF, 0x0.fffffep-126);
         moved(0x0.fffffffffffffp-1022, TINY, 0x1p-1022, 0x0.fffffep-126, TINYF, 0x1p-126);
@@ -542,7 +561,7 @@ public final class TermsTest extends Desk {
     }
 
     private static void trailGoesRound() {
-        terms("THE TRAIL .. the latest 16, when some were undone between");
+        terms("THE TRAIL keeps, of the latest 16", "some undone between");
         for (int i = 1; i <= 14; i++) {
             put(0, i, -i);
         }
